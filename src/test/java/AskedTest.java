@@ -12,6 +12,7 @@ public final class AskedTest {
         ofLayerShowsSlantAndRound();
         ofLayerPriceTakesATenthOfFame();
         suspectIsTheNearestKnownHand();
+        suspectIsFoundByItsRoundToo();
         wrongsAreOfTheFirstToTheOther();
         likenessOfTwoLayers();
         manyAddsUp();
@@ -41,6 +42,8 @@ public final class AskedTest {
         city.paint(2, 0, 7, 1, 0, 0);
         city.paint(3, 0, 7, 1, 0, 0);
         city.paint(3, 1, 0, 5, 0, 0);
+        CHECKS.is("of hand 0", 1, city.ofHand(0, 6));
+        CHECKS.is("all that are seen", 4, city.many(4));
         int[] due = {8, 2, 3, 1, 5, 2 * 3, 3};
         for (int what = 0; what <= 6; what++) {
             CHECKS.is("ofWall(0, " + what + ")", due[what], city.ofWall(0, what));
@@ -153,6 +156,19 @@ public final class AskedTest {
         CHECKS.is("also if it is not seen", 0, city.ofLayer(0, 13));
     }
 
+    private static void suspectIsFoundByItsRoundToo() {
+        Wallcode city = new Wallcode();
+        city.wall(4, 1, 0, 0);
+        city.hand(0, 9, 5, 9);
+        city.hand(1, 9, 5, 1);
+        city.hand(2, 9, 5, 7);
+        city.paint(2, 0, 0, 1, 0, 0);
+        city.watch(0, 0, 359);
+        city.paint(0, 0, 1, 1, 0, 0);
+        city.paint(1, 0, 2, 1, 0, 0);
+        CHECKS.is("round 7 is nearer to 9 than to 1", 0, city.ofLayer(0, 13));
+    }
+
     private static void wrongsAreOfTheFirstToTheOther() {
         Wallcode city = city();
         city.paint(0, 0, 0, 4, 0, 0);
@@ -161,6 +177,9 @@ public final class AskedTest {
         CHECKS.is("wrongs(1, 0)", 2, city.wrongs(1, 0));
         CHECKS.is("wrongs(0, 1)", 0, city.wrongs(0, 1));
         CHECKS.is("wrongs(1, 1)", 0, city.wrongs(1, 1));
+        city.paint(0, 0, 0, 2, 0, 0);
+        CHECKS.is("wrongs(0, 1), back", 2, city.wrongs(0, 1));
+        CHECKS.is("ofHand(1, 8)", 2, city.ofHand(1, 8));
         for (int hand : new int[] {-1, 4, 7, MIN, MAX}) {
             CHECKS.refuses("wrongs(0, " + hand + ")", Checks.INDEX, city, () -> city.wrongs(0, hand));
             CHECKS.refuses("wrongs(" + hand + ", 0)", Checks.INDEX, city, () -> city.wrongs(hand, 0));

@@ -163,6 +163,11 @@ public final class PaintTest {
         CHECKS.is("19 nights ago", 1, city.paint(1, 0, 0, 1, 1, 0));
         city.pass(1);
         CHECKS.is("20 nights ago", 0, city.paint(1, 0, 4, 1, 1, 0));
+        city.paint(0, 1, 0, 4, 1, 0);
+        city.pass(19);
+        CHECKS.is("from night 20 to night 39", 1, city.paint(1, 1, 0, 1, 1, 0));
+        city.pass(1);
+        CHECKS.is("from night 20 to night 40", 0, city.paint(1, 1, 1, 1, 1, 0));
     }
 
     private static void noWrongByALegalLayer() {

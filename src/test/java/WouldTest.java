@@ -193,6 +193,8 @@ public final class WouldTest {
         }
         CHECKS.is("of another hand", 1, city.wouldFame(1, 30));
         CHECKS.is("nothing is changed", before, city.digest());
+        city.pass(3);
+        CHECKS.is("a night ahead of a cleaning", 8, city.wouldFame(0, 1));
     }
 
     private static void wouldFameGoesBeyondTheLastNight() {
@@ -240,5 +242,14 @@ public final class WouldTest {
         CHECKS.is("of a city with all of it", Digests.of(city), city.digest());
         city.pass(1);
         CHECKS.is("a night later", Digests.of(city), city.digest());
+        Wallcode bare = new Wallcode();
+        bare.wall(5, 1, 0, 0);
+        bare.hand(0, 9, 0, 0);
+        bare.hand(1, 9, 0, 0);
+        bare.paint(1, 0, 0, 2, 1, 0);
+        bare.paint(1, 0, 4, 1, 1, 0);
+        CHECKS.is("best from cell 2, two cells wide", 2, bare.bestFrom(0, 0, 2, 1));
+        CHECKS.is("but not three", 0, bare.bestFrom(0, 0, 3, 1));
+        CHECKS.is("of that city", Digests.of(bare), bare.digest());
     }
 }
