@@ -1,5 +1,3 @@
-import java.util.Arrays;
-
 /**
  * Long runs of calls with good, bordering and wild arguments: each answer and each exception is that
  * of the plain city, and what is refused changes nothing. The numbers are always the same ones.
@@ -7,11 +5,6 @@ import java.util.Arrays;
 public final class WildCallsTest {
     private static final int RUNS = 100;
     private static final int CALLS = 512;
-    private static final String[] NAMES = {
-        "wall", "hand", "permit", "watch", "paint", "buff", "clear", "sell", "waive", "remember", "pay",
-        "pass", "ofWall", "shows", "ofHand", "ofLayer", "wrongs", "likeness", "many", "meanFame",
-        "bestFrom", "wouldWrong", "nextBuff", "wouldFame", "digest",
-    };
     /** How often each of these calls is taken; painting most of all. */
     private static final int[] SHARES = {
         3, 4, 5, 4, 40, 4, 2, 4, 2, 3, 2, 6, 6, 4, 8, 10, 4, 3, 8, 2, 6, 6, 3, 4, 1,
@@ -75,11 +68,11 @@ public final class WildCallsTest {
             int call = i < 6 ? i % 2 : call();
             int[] a = arguments(call, plain);
             long before = city.digest();
-            String due = dueAnswer(plain, city, call, a);
-            String got = answer(city, call, a);
-            String text = "run " + run + ", call " + i + ": " + NAMES[call] + Arrays.toString(a);
+            String due = call == Calls.DIGEST ? "" + Digests.of(city) : Calls.due(plain, call, a);
+            String got = Calls.answer(city, call, a);
+            String text = "run " + run + ", call " + i + ": " + Calls.text(call, a);
             checks.isTrue(text + " answered " + got + ", due is " + due, due.equals(got));
-            boolean mayChange = call <= 11 && !got.startsWith("throws.");
+            boolean mayChange = call <= Calls.PASS && !got.startsWith("throws.");
             checks.isTrue(text + " changed the city", mayChange || before == city.digest());
             if (!due.equals(got)) {
                 return;
@@ -98,186 +91,50 @@ public final class WildCallsTest {
         int wide = number(1, Math.max(1, Math.min(width, below(3) == 0 ? width - Math.abs(from % 16) : 3)));
         int kind = number(0, 3);
         switch (call) {
-            case 0:
+            case Calls.WALL:
                 return new int[] {number(4, 16), number(1, 9), number(0, 3), below(2) * number(2, 20)};
-            case 1:
+            case Calls.HAND:
                 return new int[] {number(0, 3), number(1, 9), number(0, 9), number(0, 9)};
-            case 2:
+            case Calls.PERMIT:
                 return new int[] {wall, number(0, 3), number(plain.many(0), plain.many(0) + 8)};
-            case 3:
+            case Calls.WATCH:
                 int start = number(0, 359);
                 return new int[] {wall, start, number(start, 359)};
-            case 4:
+            case Calls.PAINT:
                 return new int[] {hand, wall, from, wide, kind, number(-2, 2)};
-            case 5:
-            case 6:
+            case Calls.BUFF:
+            case Calls.CLEAR:
                 return new int[] {wall};
-            case 7:
-            case 8:
-            case 9:
+            case Calls.SELL:
+            case Calls.WAIVE:
+            case Calls.REMEMBER:
                 return new int[] {layer};
-            case 10:
+            case Calls.PAY:
                 return new int[] {hand};
-            case 11:
+            case Calls.PASS:
                 return new int[] {below(8) == 0 ? number(1, 30) : number(1, 3)};
-            case 12:
+            case Calls.OF_WALL:
                 return new int[] {wall, number(0, 6)};
-            case 13:
+            case Calls.SHOWS:
                 return new int[] {wall, from};
-            case 14:
+            case Calls.OF_HAND:
                 return new int[] {hand, number(0, 10)};
-            case 15:
+            case Calls.OF_LAYER:
                 return new int[] {layer, number(0, 13)};
-            case 16:
+            case Calls.WRONGS:
                 return new int[] {hand, number(0, plain.many(2) - 1)};
-            case 17:
+            case Calls.LIKENESS:
                 return new int[] {layer, number(0, plain.many(3) - 1)};
-            case 18:
+            case Calls.MANY:
                 return new int[] {number(0, 11)};
-            case 20:
+            case Calls.BEST_FROM:
                 return new int[] {hand, wall, number(1, 16), kind};
-            case 21:
+            case Calls.WOULD_WRONG:
                 return new int[] {hand, wall, from, wide, kind};
-            case 23:
+            case Calls.WOULD_FAME:
                 return new int[] {hand, number(0, 30)};
             default:
                 return new int[] {};
-        }
-    }
-
-    private static String answer(Wallcode city, int call, int[] a) {
-        try {
-            return call < 12 ? done(city, call, a) : asked(city, call, a);
-        } catch (RuntimeException e) {
-            return "throws." + e.getClass().getSimpleName();
-        }
-    }
-
-    private static String done(Wallcode city, int call, int[] a) {
-        switch (call) {
-            case 0:
-                return "" + city.wall(a[0], a[1], a[2], a[3]);
-            case 1:
-                return "" + city.hand(a[0], a[1], a[2], a[3]);
-            case 2:
-                return "" + city.permit(a[0], a[1], a[2]);
-            case 3:
-                return "" + city.watch(a[0], a[1], a[2]);
-            case 4:
-                return "" + city.paint(a[0], a[1], a[2], a[3], a[4], a[5]);
-            case 5:
-                return "" + city.buff(a[0]);
-            case 6:
-                return "" + city.clear(a[0]);
-            case 7:
-                return "" + city.sell(a[0]);
-            case 8:
-                return "" + (city.waive(a[0]) ? 1 : 0);
-            case 9:
-                return "" + (city.remember(a[0]) ? 1 : 0);
-            case 10:
-                return "" + city.pay(a[0]);
-            default:
-                return "" + city.pass(a[0]);
-        }
-    }
-
-    private static String asked(Wallcode city, int call, int[] a) {
-        switch (call) {
-            case 12:
-                return "" + city.ofWall(a[0], a[1]);
-            case 13:
-                return "" + city.shows(a[0], a[1]);
-            case 14:
-                return "" + city.ofHand(a[0], a[1]);
-            case 15:
-                return "" + city.ofLayer(a[0], a[1]);
-            case 16:
-                return "" + city.wrongs(a[0], a[1]);
-            case 17:
-                return "" + city.likeness(a[0], a[1]);
-            case 18:
-                return "" + city.many(a[0]);
-            case 19:
-                return "" + city.meanFame();
-            case 20:
-                return "" + city.bestFrom(a[0], a[1], a[2], a[3]);
-            case 21:
-                return "" + city.wouldWrong(a[0], a[1], a[2], a[3], a[4]);
-            case 22:
-                return "" + city.nextBuff();
-            case 23:
-                return "" + city.wouldFame(a[0], a[1]);
-            default:
-                return "" + city.digest();
-        }
-    }
-
-    private static String dueAnswer(PlainCity plain, Wallcode city, int call, int[] a) {
-        try {
-            return call < 12 ? dueDone(plain, call, a) : dueAsked(plain, city, call, a);
-        } catch (PlainCity.Refused e) {
-            return "throws." + e.getMessage();
-        }
-    }
-
-    private static String dueDone(PlainCity plain, int call, int[] a) {
-        switch (call) {
-            case 0:
-                return "" + plain.wall(a[0], a[1], a[2], a[3]);
-            case 1:
-                return "" + plain.hand(a[0], a[1], a[2], a[3]);
-            case 2:
-                return "" + plain.permit(a[0], a[1], a[2]);
-            case 3:
-                return "" + plain.watch(a[0], a[1], a[2]);
-            case 4:
-                return "" + plain.paint(a[0], a[1], a[2], a[3], a[4], a[5]);
-            case 5:
-                return "" + plain.buff(a[0]);
-            case 6:
-                return "" + plain.clear(a[0]);
-            case 7:
-                return "" + plain.sell(a[0]);
-            case 8:
-                return "" + plain.waive(a[0]);
-            case 9:
-                return "" + plain.remember(a[0]);
-            case 10:
-                return "" + plain.pay(a[0]);
-            default:
-                return "" + plain.pass(a[0]);
-        }
-    }
-
-    private static String dueAsked(PlainCity plain, Wallcode city, int call, int[] a) {
-        switch (call) {
-            case 12:
-                return "" + plain.ofWall(a[0], a[1]);
-            case 13:
-                return "" + plain.shows(a[0], a[1]);
-            case 14:
-                return "" + plain.ofHand(a[0], a[1]);
-            case 15:
-                return "" + plain.ofLayer(a[0], a[1]);
-            case 16:
-                return "" + plain.wrongs(a[0], a[1]);
-            case 17:
-                return "" + plain.likeness(a[0], a[1]);
-            case 18:
-                return "" + plain.many(a[0]);
-            case 19:
-                return "" + plain.meanFame();
-            case 20:
-                return "" + plain.bestFrom(a[0], a[1], a[2], a[3]);
-            case 21:
-                return "" + plain.wouldWrong(a[0], a[1], a[2], a[3], a[4]);
-            case 22:
-                return "" + plain.nextBuff();
-            case 23:
-                return "" + plain.wouldFame(a[0], a[1]);
-            default:
-                return "" + Digests.of(city);
         }
     }
 
