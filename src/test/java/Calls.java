@@ -52,7 +52,7 @@ final class Calls {
         }
     }
 
-    /** What the plain city answers, in the same form; it has no digest. */
+    /** What the plain city answers, in the same form. */
     static String due(PlainCity plain, int call, int... a) {
         try {
             return call <= PASS ? dueDone(plain, call, a) : dueAsked(plain, call, a);
@@ -177,7 +177,7 @@ final class Calls {
             case WOULD_FAME:
                 return "" + plain.wouldFame(a[0], a[1]);
             default:
-                throw new IllegalArgumentException("the plain city has no such call");
+                return "" + plain.digest();
         }
     }
 }

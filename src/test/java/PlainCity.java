@@ -1,3 +1,4 @@
+import java.math.BigInteger;
 import java.util.ArrayList;
 import java.util.List;
 import java.util.Set;
@@ -335,6 +336,10 @@ final class PlainCity {
     int ofWall(int wall, int what) {
         needWall(wall);
         refuseUnless(in(what, 0, 6), ARGUMENT);
+        return allOfWall(wall)[what];
+    }
+
+    private int[] allOfWall(int wall) {
         int[] w = walls.get(wall);
         int painted = 0;
         Set<Integer> seen = new TreeSet<>();
@@ -344,8 +349,7 @@ final class PlainCity {
             seen.add(layer);
         }
         seen.remove(-1);
-        int[] all = {w[0], w[1], w[2], permitted(wall), painted, w[1] * buffables(wall), seen.size()};
-        return all[what];
+        return new int[] {w[0], w[1], w[2], permitted(wall), painted, w[1] * buffables(wall), seen.size()};
     }
 
     int shows(int wall, int cell) {
@@ -357,16 +361,19 @@ final class PlainCity {
     int ofHand(int hand, int what) {
         needHand(hand);
         refuseUnless(in(what, 0, 10), ARGUMENT);
+        return allOfHand(hand)[what];
+    }
+
+    private int[] allOfHand(int hand) {
         int seen = 0;
         for (int layer = 0; layer < layers.size(); layer++) {
             seen += layers.get(layer)[0] == hand && seen(layer) > 0 ? 1 : 0;
         }
-        int[] all = {
+        return new int[] {
             hands.get(hand)[0], 360 - used(hand), fines(hand), known(hand) ? 1 : 0, fame(hand),
             count(layers, 0, hand), seen, count(wrongs, 0, hand), count(wrongs, 1, hand),
             sum(owed, hand), count(caught, 0, hand),
         };
-        return all[what];
     }
 
     private boolean known(int hand) {
@@ -397,13 +404,16 @@ final class PlainCity {
     int ofLayer(int layer, int what) {
         needLayer(layer);
         refuseUnless(in(what, 0, 13), ARGUMENT);
+        return allOfLayer(layer)[what];
+    }
+
+    private int[] allOfLayer(int layer) {
         int[] l = layers.get(layer);
-        int[] all = {
+        return new int[] {
             l[0], l[1], l[2], l[3], l[4], l[6], l[7], waived.contains(layer) ? 1 : 0,
             memorials.contains(layer) ? 1 : 0, seen(layer), slant(layer), round(layer), price(layer),
             suspect(layer),
         };
-        return all[what];
     }
 
     int wrongs(int one, int other) {
@@ -424,6 +434,10 @@ final class PlainCity {
 
     int many(int what) {
         refuseUnless(in(what, 0, 11), ARGUMENT);
+        return allOfMany()[what];
+    }
+
+    private int[] allOfMany() {
         int seen = 0;
         int mistaken = 0;
         for (int layer = 0; layer < layers.size(); layer++) {
@@ -440,11 +454,10 @@ final class PlainCity {
             fines += fines(hand);
             owedTogether += sum(owed, hand);
         }
-        int[] all = {
+        return new int[] {
             night, walls.size(), hands.size(), layers.size(), seen, coins(), wrongs.size(), known, fines,
             owedTogether, sold, mistaken,
         };
-        return all[what];
     }
 
     double meanFame() {
@@ -511,5 +524,42 @@ final class PlainCity {
             fame += l[0] == hand && stays ? seen(layer) * WEIGHT[l[4]] * w[1] : 0;
         }
         return fame;
+    }
+
+    /** All its numbers without any wrap-around, and of the sum its last 64 bits. */
+    long digest() {
+        List<Integer> numbers = new ArrayList<>();
+        addAll(numbers, allOfMany());
+        for (int wall = 0; wall < walls.size(); wall++) {
+            addAll(numbers, allOfWall(wall));
+            for (int cell = 0; cell < walls.get(wall)[0]; cell++) {
+                numbers.add(shown(wall, cell));
+            }
+        }
+        for (int hand = 0; hand < hands.size(); hand++) {
+            addAll(numbers, allOfHand(hand));
+            for (int other = 0; other < hands.size(); other++) {
+                numbers.add(wrongs(hand, other));
+            }
+            numbers.add(wouldFame(hand, 7));
+        }
+        for (int layer = 0; layer < layers.size(); layer++) {
+            addAll(numbers, allOfLayer(layer));
+        }
+        numbers.add(nextBuff());
+        if (!walls.isEmpty() && !hands.isEmpty()) {
+            numbers.add(bestFrom(0, 0, 2, 1));
+        }
+        BigInteger d = BigInteger.valueOf(58232);
+        for (int number : numbers) {
+            d = d.multiply(BigInteger.valueOf(31)).add(BigInteger.valueOf(number));
+        }
+        return d.longValue();
+    }
+
+    private static void addAll(List<Integer> numbers, int[] more) {
+        for (int number : more) {
+            numbers.add(number);
+        }
     }
 }

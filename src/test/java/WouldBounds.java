@@ -1,5 +1,3 @@
-import java.math.BigInteger;
-
 /** What would be, at its ends: promises 22 to 26. */
 final class WouldBounds {
     private static final int NONE = -1;
@@ -380,7 +378,7 @@ final class WouldBounds {
         Script[] scripts = {Script.empty(), Script.onlyWalls(), Script.onlyHands(), Script.ordinary(),
             Script.spent(), Script.full()};
         for (Script script : scripts) {
-            checks.is(script.title, wholeDigest(script.plain()).longValue(), script.city().digest());
+            checks.is(script.title, script.plain().digest(), script.city().digest());
         }
     }
 
@@ -397,7 +395,7 @@ final class WouldBounds {
             checks.is("wouldFame(0, 6)", 4, cleaned.city().wouldFame(0, 6));
             checks.is("wouldFame(0, 7)", night == 0 ? 4 : 0, cleaned.city().wouldFame(0, 7));
             checks.is("wouldFame(0, 8)", 0, cleaned.city().wouldFame(0, 8));
-            checks.is(cleaned.title, wholeDigest(cleaned.plain()).longValue(), cleaned.city().digest());
+            checks.is(cleaned.title, cleaned.plain().digest(), cleaned.city().digest());
         }
         checks.stands(26, "bestFrom() of the HAND 0, the WALL 0, 2 and 1, if there are both.");
         Script painted = new Script("WRONGS on most CELLS").then(Calls.WALL, 6, 1, 0, 0)
@@ -408,43 +406,6 @@ final class WouldBounds {
             checks.is("bestFrom(0, 0, " + row[0] + ", " + row[1] + ")", row[2],
                 painted.city().bestFrom(0, 0, row[0], row[1]));
         }
-        checks.is(painted.title, wholeDigest(painted.plain()).longValue(), painted.city().digest());
-    }
-
-    /** All its numbers without any wrap-around, of the plain city's answers. */
-    private static BigInteger wholeDigest(PlainCity plain) {
-        BigInteger d = BigInteger.valueOf(58232);
-        for (int what = 0; what <= 11; what++) {
-            d = mixed(d, plain.many(what));
-        }
-        for (int wall = 0; wall < plain.many(1); wall++) {
-            for (int what = 0; what <= 6; what++) {
-                d = mixed(d, plain.ofWall(wall, what));
-            }
-            for (int cell = 0; cell < plain.ofWall(wall, 0); cell++) {
-                d = mixed(d, plain.shows(wall, cell));
-            }
-        }
-        for (int hand = 0; hand < plain.many(2); hand++) {
-            for (int what = 0; what <= 10; what++) {
-                d = mixed(d, plain.ofHand(hand, what));
-            }
-            for (int other = 0; other < plain.many(2); other++) {
-                d = mixed(d, plain.wrongs(hand, other));
-            }
-            d = mixed(d, plain.wouldFame(hand, 7));
-        }
-        for (int layer = 0; layer < plain.many(3); layer++) {
-            for (int what = 0; what <= 13; what++) {
-                d = mixed(d, plain.ofLayer(layer, what));
-            }
-        }
-        d = mixed(d, plain.nextBuff());
-        boolean areBoth = plain.many(1) > 0 && plain.many(2) > 0;
-        return areBoth ? mixed(d, plain.bestFrom(0, 0, 2, 1)) : d;
-    }
-
-    private static BigInteger mixed(BigInteger d, int value) {
-        return d.multiply(BigInteger.valueOf(31)).add(BigInteger.valueOf(value));
+        checks.is(painted.title, painted.plain().digest(), painted.city().digest());
     }
 }
