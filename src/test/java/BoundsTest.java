@@ -17,6 +17,7 @@ public final class BoundsTest {
         new WouldBounds(checks).run();
         new EverythingBounds(checks).run();
         new RefusedBounds(checks).run();
+        new DeedBounds(checks).run();
         for (String words : document.notQuoted()) {
             checks.fail("no test stands for these words: " + words);
         }
